@@ -111,7 +111,8 @@ final class TextTest {
       "call -1 2 3", "105", "call 1 2 123", "109", "tick1park", "105", "park; park; pork", "112",
       "way 123 ;", "104", "park way 123", "105", "park`", "104", "park{", "104", "way :", "104",
       "way /", "104", "a", "100", "tickpark", "100", "regives", "100", "giv 1 2", "100",
-      "call 1 2;call 3 ?", "108",
+      "call 1 2;call 3 ?", "108", "parkz", "100", "parka", "100", "park9", "104", "tick:1", "104",
+      "gark", "100", "zpark", "100", "0park", "100", "wax 1", "100", "tick 1:", "106",
     };
     for (int i = 0; i < texts.length; i += 2) {
       int due = Integer.parseInt(texts[i + 1]);

@@ -141,6 +141,9 @@ final class TicksTest {
     x.ticks(5);
     Check.due("boards on the way down", x.group(2, 4), 1);
     state(x, 0, 3, 2, 1, 0);
+    x.ticks(5);
+    Check.due("there on 1", x.group(2, 4), 2);
+    state(x, 0, 1, 0, 1, 0);
     LiftSweeps y = new LiftSweeps();
     y.call(0, 3, 1);
     y.call(3, 1, 1);
@@ -438,10 +441,18 @@ final class TicksTest {
     Check.due("told(1, 7)", x.told(1, 7), 3);
     x.build(8, 1);
     x.call(0, 1, 1);
-    x.ticks(6);
-    Check.due("a car that stays may be parked", x.told(0, 5), 0);
+    x.ticks(4);
+    Check.due("a car that stays may be parked", x.told(0, 5), 1);
     Check.due("park()", x.park(), 1);
     Check.due("told(0, 7)", x.told(0, 7), 0);
+    x.build(8, 2);
+    x.call(0, 6, 1);
+    x.call(0, 6, 1);
+    x.call(3, 6, 1);
+    x.ticks(60);
+    Check.due("floor 0, too, has its rank", x.park(), 2);
+    Check.due("told(0, 7)", x.told(0, 7), 0);
+    Check.due("told(1, 7)", x.told(1, 7), 3);
   }
 
   private static void demand() {
@@ -567,6 +578,10 @@ final class TicksTest {
     Check.due("mean(0)", x.mean(0), -3);
     Check.due("mean(2)", x.mean(2), -2);
     Check.due("mean(-1)", x.mean(-1), -2);
+    x.call(0, 3, 4);
+    x.ticks(9);
+    x.build(8, 2);
+    Check.due("after build", x.mean(0), -3);
     x.call(0, 3, 4);
     x.call(1, 3, 1);
     x.call(5, 7, 1);

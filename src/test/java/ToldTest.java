@@ -258,31 +258,33 @@ final class ToldTest {
     x.car(1, 5, 7, 6);
     x.way(1);
     x.gap(8);
-    x.call(0, 4, 3);
-    x.call(0, 6, 3);
-    x.call(0, 5, 1);
+    x.ticks(2);
+    x.call(1, 4, 3);
+    x.call(1, 6, 3);
+    x.call(1, 5, 1);
     x.give(1, 0);
     x.give(2, 0);
+    Check.due("park()", x.park(), 1);
     x.ticks(9);
-    x.park();
+    Check.due("a group that is told", x.group(0, 5), 2);
+    x.call(9, 0, 2);
+    Check.due("park()", x.park(), 1);
+    Check.due("a park that is told", x.told(2, 7), 1);
     int[] due = all(x);
-    Check.due("image()", x.image(), 3);
+    Check.due("image()", x.image(), 4);
     x.sheet(1, 0, 5);
     Check.feed(x, "park");
     x.ticks(50);
     x.way(2);
     x.gap(1);
     x.call(7, 8, 2);
-    x.build(4, 1);
-    x.call(3, 2, 1);
     for (int i = 0; i < 3; i++) {
-      Check.due("back()", x.back(), 3);
+      overwrite(x);
+      Check.due("back()", x.back(), 4);
       int[] got = all(x);
       for (int k = 0; k < due.length; k++) {
         Check.due("number " + k, got[k], due[k]);
       }
-      x.ticks(7);
-      x.regive();
     }
     Check.due("sheets are not kept", x.put(1, 4, 1), 1);
     Check.due("nor is the tape", x.count(7), 4);
@@ -291,6 +293,21 @@ final class ToldTest {
     x.back();
     Check.due("sheets are not kept", x.put(1, 4, 1), -11);
     Check.due("nor is the tape", x.count(7), 0);
+  }
+
+  /** Leaves nothing as it was: other cars, groups, and more events than are held. */
+  private static void overwrite(LiftSweeps x) {
+    x.build(4, 4);
+    for (int car = 0; car < 4; car++) {
+      x.car(car, 3, 3, 3);
+    }
+    for (int i = 0; i < 9; i++) {
+      x.call(3, i % 3, 2);
+      x.give(i, (x.group(i, 3) + 1) % 4);
+      x.give(i, (x.group(i, 3) + 1) % 4);
+      x.ticks(30);
+    }
+    x.park();
   }
 
   /** All that can be asked for, but for sheets and the tape. */
