@@ -206,6 +206,8 @@ final class CallsTest {
     Check.due("call(7, 0, 1)", x.call(7, 0, 1), 6);
     Check.due("7 lies the other way", x.cost(6, 0), 1 + 20);
     Check.due("4 lies its way", x.cost(4, 0), 2);
+    Check.due("call(6, 0, 1)", x.call(6, 0, 1), 7);
+    Check.due("where it is is not the other way", x.cost(7, 0), 0);
   }
 
   private static void costLight() {
