@@ -8,6 +8,9 @@ public final class AllTests {
 
   public static void main(String[] args) throws IOException {
     FaceTest.run();
+    LanguageTest.run();
+    TermsTest.run();
+    PromisesTest.run();
     FloorsTest.run();
     CallsTest.run();
     TicksTest.run();

