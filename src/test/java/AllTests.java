@@ -9,6 +9,7 @@ public final class AllTests {
   public static void main(String[] args) throws IOException {
     FaceTest.run();
     LanguageTest.run();
+    ReadmeTest.run();
     TermsTest.run();
     PromisesTest.run();
     FloorsTest.run();
